@@ -57,6 +57,7 @@ public final class HiddenTest {
         cloth.like(0);
         cloth.like(0);
         check.rowed("knew: of nine", cloth, 0, cloth.knew(3, 4), 5, 9);
+        check.rowed("knew: the last weave", cloth, 0, cloth.knew(5, 9), 1, 1);
     }
 
     private void hows() {
@@ -82,12 +83,17 @@ public final class HiddenTest {
         cloth.how(3, 0, 0);
         cloth.how(5, 1, 0);
         cloth.how(6, 0, 1);
-        check.rowed("open: nothing known", cloth, 2 + 8 + 32 + 64, cloth.open(0, 0), 8);
-        check.rowed("open: a mark is", cloth, 2 + 8 + 32, cloth.open(1, 0), 8 + 32);
+        cloth.how(0, 16, 32);
+        check.rowed("open: the first how", cloth, 1 + 2 + 8 + 32 + 64, cloth.open(16, 32), 1 + 8);
+        cloth.how(0, 24, 32);
+        check.rowed("open: none is known that asks more", cloth, 1 + 2 + 8 + 32 + 64, cloth.open(16, 32), 8);
+        cloth.how(0, 255, 0);
+        check.rowed("open: nothing known", cloth, 1 + 2 + 8 + 32 + 64, cloth.open(0, 0), 8);
+        check.rowed("open: a mark is", cloth, 1 + 2 + 8 + 32, cloth.open(1, 0), 8 + 32);
         check.rowed("open: a mark is not", cloth, 8 + 64, cloth.open(0, 1), 8 + 64);
-        check.rowed("open: two are", cloth, 2 + 8 + 32, cloth.open(3, 0), 8 + 32);
+        check.rowed("open: two are", cloth, 1 + 2 + 8 + 32, cloth.open(3, 0), 8 + 32);
         check.rowed("open: all it asks", cloth, 2 + 8 + 32, cloth.open(3, 4), 2 + 8 + 32);
-        check.rowed("open: a barred one is", cloth, 8 + 32, cloth.open(7, 0), 8 + 32);
+        check.rowed("open: a barred one is", cloth, 1 + 8 + 32, cloth.open(7, 0), 8 + 32);
         check.rowed("open: a needed one is not", cloth, 8 + 32, cloth.open(1, 6), 8 + 32);
         check.rowed("open: marks of none", cloth, 2 + 8 + 32 + 64, cloth.open(128, 120), 8);
     }

@@ -9,6 +9,7 @@ public final class HouseTest {
         HouseTest test = new HouseTest();
         test.apart();
         test.apartBounds();
+        test.nearApartBounds();
         test.slopes();
         test.lots();
         test.odds();
@@ -59,6 +60,22 @@ public final class HouseTest {
         check.rowed("apart: as far as can be", far, 1, far.apart(15), 1100401, 900);
         ClothWithMan near = strip(1, -99, 1999);
         check.rowed("apart: as far by the least span", near, 1, near.apart(3), 2098 * 1049, 1);
+    }
+
+    private void nearApartBounds() {
+        ClothWithMan two = strip(1, 0, 49);
+        two.piece(1, 0, 0, 1);
+        two.house(1, 0, 25);
+        two.count(2, 49);
+        check.rowed("apart: two, 3.835", two, 0, two.apart(5), 2401, 626);
+        two.house(1, 0, 5);
+        two.count(2, 10);
+        check.rowed("apart: two, 3.846", two, 1, two.apart(5), 50, 13);
+        check.same("apart: three, 5.984", 0, strip(9, 0, 13, 31).apart(7));
+        check.same("apart: three, 5.992", 1, strip(13, 0, 7, 42).apart(7));
+        ClothWithMan four = strip(10, 0, 2, 9, 35);
+        check.rowed("apart: four, 7.81 is not above it", four, 0, four.apart(15), 781, 100);
+        check.same("apart: four above it", 1, strip(10, 0, 2, 9, 36).apart(15));
     }
 
     private void slopes() {
@@ -112,6 +129,7 @@ public final class HouseTest {
 
     private void odds() {
         ClothWithMan cloth = strip(10, 100, 130, 140);
+        cloth.years(0, 60);
         check.rowed("odd", cloth, 0, cloth.odd(7), 1, 2);
         cloth = strip(10, 100, 130, 110);
         check.rowed("odd", cloth, 1, cloth.odd(7), 1, 2);
@@ -175,6 +193,8 @@ public final class HouseTest {
         check.rowed("must: half of it", cloth, 100, cloth.must(0, 50, 100), 0);
         check.rowed("must: with stuff", cloth, 0, cloth.must(100, 50, 100), 0);
         check.rowed("must: all stuff", cloth, 0, cloth.must(100, 100, 7), 193);
+        check.rowed("must: the first year", cloth, 0, cloth.must(0, 0, 0), 0);
+        check.rowed("must: the next", cloth, 1, cloth.must(0, 0, 2), 0);
         check.rowed("must: above all", cloth, 199, cloth.must(0, 0, 500), 102);
         check.rowed("must: far above", cloth, 199, cloth.must(0, 0, MAX), MAX - 398L);
         check.rowed("must: far below", cloth, 0, cloth.must(0, 0, MIN), 1L << 31);

@@ -357,6 +357,12 @@ public final class StoryTest {
         cloth.paper(100, false, 6);
         check.same("odds", 1, cloth.odds(1));
         check.rowed("first", cloth, 1, cloth.first(1), 0);
+        ClothWithMan zero = sharp(100);
+        zero.house(0, 0, 60);
+        Check.story(zero, "w100");
+        Check.story(zero, "w101");
+        zero.paper(100, false, 6);
+        check.rowed("first: the paper 0", zero, 0, zero.first(1), 0);
         cloth.paper(100, false, 6);
         check.same("first: one alone does not do it", -2, cloth.first(1));
         cloth.paper(100, true, 7);
