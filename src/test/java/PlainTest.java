@@ -1,10 +1,18 @@
+import java.util.Arrays;
+import java.util.List;
 import java.util.NoSuchElementException;
 import java.util.Random;
 
-/** Long runs of calls by lot (the same each time), each answer and the whole ROW held against PlainCloth. */
+/**
+ * Long runs of calls by lot (the same each time), each answer and the whole ROW held against PlainCloth. An object
+ * is asked 512 times at most, all told: what it answers later is free.
+ */
 public final class PlainTest {
-    private static final int RUNS = 400;
+    private static final int RUNS = 2000;
     private static final int CALLS = 512;
+    /** More than one step asks of the object. */
+    private static final int CALLS_OF_A_STEP = 60;
+    private static final int STEPS_BETWEEN_LOOKS = 10;
     private static final int[] FAR = {
         Integer.MIN_VALUE, Integer.MIN_VALUE + 1, -1000, -100, -2, -1, 0, 1, 7, 8, 12, 24, 61, 200, 256, 1 << 12,
         2000, 1 << 20, 1 << 30, Integer.MAX_VALUE - 1, Integer.MAX_VALUE,
@@ -18,6 +26,8 @@ public final class PlainTest {
     private ClothWithMan cloth;
     private PlainCloth plain;
     private boolean isWild;
+    private int calls;
+    private List<Long> rowSeen;
 
     public static void main(String[] args) {
         PlainTest test = new PlainTest();
@@ -26,6 +36,8 @@ public final class PlainTest {
         }
         for (int call = 0; call < 51; call++) {
             test.check.yes("call " + call + " has answered", test.answered[call] > 100);
+            boolean isNeverRefused = call == 27 || call == 47;
+            test.check.yes("call " + call + " has refused", isNeverRefused || test.refused[call] > 20);
         }
         test.check.close();
     }
@@ -34,12 +46,14 @@ public final class PlainTest {
         lot = new Random(run);
         cloth = new ClothWithMan();
         plain = new PlainCloth();
+        calls = 0;
+        rowSeen = null;
         isWild = run % 4 == 0;
         if (!isWild) {
             set();
         }
-        for (int call = 0; call < CALLS; call++) {
-            if (!step(run, call)) {
+        for (int number = 0; calls < CALLS - CALLS_OF_A_STEP; number++) {
+            if (!step(run, number)) {
                 return;
             }
         }
@@ -47,6 +61,7 @@ public final class PlainTest {
 
     /** Runs that begin with a cloth much of which is told get farther. */
     private void set() {
+        calls += 1 + 2 * 5 + 3 + 2 * 2;
         write(curveText());
         cloth.curve();
         plain.curve();
@@ -63,6 +78,13 @@ public final class PlainTest {
             write(storyText());
             cloth.story();
             plain.story();
+        }
+        for (int i = 0; i < 2; i++) {
+            int[] p = {lot.nextInt(200), lot.nextInt(2), 1 + lot.nextInt(9), lot.nextInt(16), lot.nextInt(4096)};
+            cloth.paper(p[0], p[1] == 1, p[2]);
+            plain.paper(p[0], p[1] == 1, p[2]);
+            cloth.wanted(4 * i, i, p[3], p[4]);
+            plain.wanted(4 * i, i, p[3], p[4]);
         }
     }
 
@@ -83,6 +105,7 @@ public final class PlainTest {
         if (lot.nextInt(10) == 0) {
             return upTo(4095);
         }
+        calls++;
         int counted = cloth.told(4);
         int bits = 0;
         int n = 1 + lot.nextInt(most);
@@ -149,6 +172,7 @@ public final class PlainTest {
     }
 
     private void write(String text) {
+        calls += 2 + (text.length() + 3) / 4;
         Check.write(cloth, text);
         plain.text = text;
     }
@@ -158,7 +182,10 @@ public final class PlainTest {
     private boolean step(int run, int number) {
         int call = lot.nextInt(51);
         String what = "run " + run + ", call " + number + " (" + call + ")";
-        if (call == 2 && lot.nextInt(8) > 0) {
+        if (call == 0 && lot.nextInt(4) == 0) {
+            write("1".repeat(70 + lot.nextInt(11)));
+        }
+        if (call == 1 && lot.nextInt(2) == 0 || call == 2 && lot.nextInt(8) > 0) {
             write(bent(curveText()));
         }
         if (call == 28 && lot.nextInt(8) > 0) {
@@ -168,17 +195,23 @@ public final class PlainTest {
             return true;
         }
         int[] a = arguments(call);
+        calls++;
         long due = answer(plainCall(call, a));
         long got = answer(clothCall(call, a));
-        if (due >= 0) {
+        boolean isNo = due == 0 && isYesOrNo(call);
+        if (due >= 0 && !isNo) {
             answered[call]++;
         } else {
             refused[call]++;
         }
-        boolean isRight = due == got && sameRow() && sameState();
-        check.yes(what + " " + java.util.Arrays.toString(a) + " due " + due + " got " + got + " row " + plain.row,
+        boolean isRight = due == got && sameRow() && (number % STEPS_BETWEEN_LOOKS > 0 || sameState());
+        check.yes(what + " " + Arrays.toString(a) + " due " + due + " got " + got + " row " + plain.row,
                 isRight);
         return isRight;
+    }
+
+    private static boolean isYesOrNo(int call) {
+        return call == 1 || call == 8 || call == 13 || call == 42 || call == 45 || call == 48 || call == 49;
     }
 
     private static final long THROWN = Long.MIN_VALUE + 1;
@@ -191,10 +224,17 @@ public final class PlainTest {
         }
     }
 
+    /** PlainCloth makes a new list for each ROW: while it is the same, the ROW was not told anew. */
     private boolean sameRow() {
+        calls++;
         if (cloth.told(8) != plain.row.size()) {
             return false;
         }
+        if (plain.row == rowSeen && lot.nextInt(8) > 0) {
+            return true;
+        }
+        rowSeen = plain.row;
+        calls += plain.row.size();
         for (int i = 0; i < plain.row.size(); i++) {
             if (cloth.row(i) != plain.row.get(i)) {
                 return false;
@@ -204,6 +244,7 @@ public final class PlainTest {
     }
 
     private boolean sameState() {
+        calls += 11;
         for (int what = 0; what <= 10; what++) {
             if (cloth.told(what) != plain.told(what)) {
                 return false;
