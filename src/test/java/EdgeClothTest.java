@@ -679,7 +679,8 @@ public final class EdgeClothTest {
             {MIN, 0, 0}, {MAX, 0, 0}, {0, MIN, 0}, {0, MAX, 0}, {0, 0, MIN}, {0, 0, MAX},
         };
         for (int[] n : none) {
-            edges.changesNothing("thread(" + n[0] + ", " + n[1] + ", " + n[2] + ")", -1, c -> c.thread(n[0], n[1], n[2]));
+            edges.changesNothing("thread(" + n[0] + ", " + n[1] + ", " + n[2] + ")", -1,
+                    c -> c.thread(n[0], n[1], n[2]));
         }
     }
 

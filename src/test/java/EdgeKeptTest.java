@@ -235,8 +235,8 @@ public final class EdgeKeptTest {
         }
         for (int what = 0; what <= 10; what++) {
             int asked = what;
-            edges.changesNothing("told(" + what + ") of a new one", what == 0 ? 1 : what == 10 ? 100 : 0, ClothWithMan::new,
-                    c -> c.told(asked));
+            long due = what == 0 ? 1 : what == 10 ? 100 : 0;
+            edges.changesNothing("told(" + what + ") of a new one", due, ClothWithMan::new, c -> c.told(asked));
         }
     }
 

@@ -303,7 +303,8 @@ public final class EdgeStoryTest {
         int[] years = {-1, 200, MIN, MAX};
         for (int year : years) {
             edges.changesNothing("YEAR " + year, Edges.THROWN, c -> c.would(0, 0, year));
-            edges.changesNothing("YEAR " + year + ", whatever w says", Edges.THROWN, Edges::rich, c -> c.would(1, 0, year));
+            edges.changesNothing("YEAR " + year + ", whatever w says", Edges.THROWN, Edges::rich,
+                    c -> c.would(1, 0, year));
         }
         edges.changesNothing("one behind the last STORY", Edges.THROWN, Edges::rich, c -> c.would(3, 0, 50));
         edges.changesNothing("one behind the last STORY", Edges.THROWN, Edges::full, c -> c.would(6, 0, 50));

@@ -3,12 +3,13 @@ import java.lang.management.ManagementFactory;
 
 /**
  * All calls of a run live in one room of some 600,000 objects and 7.3 million fields and elements: an object and
- * its 512 calls, of whichever kind, take little of it.
+ * its calls, of whichever kind, take little of it.
  */
 public final class RoomTest {
-    private static final int CALLS = 512;
+    /** With those that make a full cloth they are fewer than 512. */
+    private static final int CALLS = 250;
     private static final long MOST_BYTES_OF_AN_OBJECT = 16_000;
-    private static final long MOST_BYTES_OF_CALLS = 64_000;
+    private static final long MOST_BYTES_OF_CALLS = 32_000;
 
     private final ThreadMXBean bean = (ThreadMXBean) ManagementFactory.getThreadMXBean();
     private final Check check = new Check("RoomTest");
@@ -46,7 +47,7 @@ public final class RoomTest {
             }
             taken = bytes() - ahead;
         }
-        check.yes(what + ": 512 calls take " + taken + " bytes", taken < MOST_BYTES_OF_CALLS);
+        check.yes(what + ": " + CALLS + " calls take " + taken + " bytes", taken < MOST_BYTES_OF_CALLS);
     }
 
     private void callsOfTheCloth() {
