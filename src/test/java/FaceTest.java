@@ -1,11 +1,21 @@
+import java.io.IOException;
 import java.lang.reflect.Constructor;
 import java.lang.reflect.Field;
 import java.lang.reflect.Method;
 import java.lang.reflect.Modifier;
+import java.nio.charset.StandardCharsets;
+import java.nio.file.Files;
+import java.nio.file.Path;
+import java.util.NoSuchElementException;
 import java.util.Set;
 import java.util.TreeSet;
+import java.util.regex.Matcher;
+import java.util.regex.Pattern;
 
-/** The class has the public face of the document and no other member that can be seen from outside. */
+/**
+ * The class has the public face of the document, told in its order under what stands ahead of the calls, and no
+ * other member that can be seen from outside. Run at the project's root.
+ */
 public final class FaceTest {
     private static final String[] FACE = {
         "boolean again(int)", "boolean count(int,int)", "boolean end(int)",
@@ -23,8 +33,26 @@ public final class FaceTest {
         "int where(int)", "int within(int,int)", "int would(int,int,int)", "int woven(int)",
         "int years(int,int)", "int younger(int,int,int)", "long row(int)",
     };
+    private static final Path FILE = Path.of("src/main/java/ClothWithMan.java");
+    private static final String[] IN_ORDER = {
+        "the cloth: sign(v) end(n) curve() value(year) woven(year) mend(x,y,wide,high,year)"
+            + " stuff(x,y,wide,high,year,share) way(way,v) house(house,slip,span) sheet(kind,n,f,step)"
+            + " thread(x,y,way)",
+        "pieces: piece(x,y,way,house) truth(piece) count(piece,number) draw(piece) counted(piece)",
+        "years: likeness(number,value,span) years(number,span) likely(pieces) within(pieces,p)"
+            + " between(pieces,from,to)",
+        "houses that differ: apart(pieces) slope(pieces) lot(pieces) odd(pieces)",
+        "younger stuff: younger(year,stuff,number) must(stuff,share,number)",
+        "stories: story() faith(story,v) would(story,piece,year) paper(year,seen,trust) odds(pieces)"
+            + " when(story,pieces) first(pieces) needs(story)",
+        "plans: parts(piece,year) next(year) fewest(year) where(year)",
+        "hidden pieces, hows, who wanted it: like(weave) knew(weave,k) how(how,needs,bars) open(are,not)"
+            + " look(are,not) wanted(person,story,papers,pieces) omits(person)",
+        "kept: seed(v) keep(i) again(i) told(what) row(i)",
+    };
+    private static final Set<String> THROWING = Set.of("truth", "draw", "counted", "would", "row");
 
-    public static void main(String[] args) {
+    public static void main(String[] args) throws IOException {
         Check check = new Check("FaceTest");
         Class<?> face = ClothWithMan.class;
         check.yes("public and final", Modifier.isPublic(face.getModifiers())
@@ -55,7 +83,39 @@ public final class FaceTest {
             }
         }
         check.same("NONE", -1, ClothWithMan.NONE);
+        throwsClauses(check);
+        order(check);
         check.close();
+    }
+
+    private static void throwsClauses(Check check) {
+        for (Method method : ClothWithMan.class.getMethods()) {
+            if (method.getDeclaringClass() != ClothWithMan.class) {
+                continue;
+            }
+            Class<?>[] thrown = method.getExceptionTypes();
+            check.same("what " + method.getName() + " says it throws",
+                    THROWING.contains(method.getName()) ? 1 : 0, thrown.length);
+            check.yes("it is NoSuchElementException",
+                    thrown.length == 0 || thrown[0] == NoSuchElementException.class);
+        }
+    }
+
+    private static void order(Check check) throws IOException {
+        String text = new String(Files.readAllBytes(FILE), StandardCharsets.ISO_8859_1);
+        Matcher line = Pattern.compile("(?m)^    (?:// ---- (.*)|public \\w+ (\\w+)\\((.*?)\\).*)$").matcher(text);
+        StringBuilder found = new StringBuilder();
+        int calls = 0;
+        while (line.find() && calls < FACE.length) {
+            if (line.group(1) != null) {
+                found.append('\n').append(line.group(1)).append(':');
+            } else {
+                String names = line.group(3).replaceAll("\\w+ (\\w+)", "$1").replace(" ", "");
+                found.append(' ').append(line.group(2)).append('(').append(names).append(')');
+                calls++;
+            }
+        }
+        check.text("the calls in their order", "\n" + String.join("\n", IN_ORDER), found.toString());
     }
 
     private static String told(Method method) {
